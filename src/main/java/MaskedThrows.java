@@ -107,7 +107,6 @@ public final class MaskedThrows {
 
     private final int[] tape;
     private int taped;
-    private final Tokens tokens;
     private final Parser parser;
     private final Program[] programs;
     private int programCount;
@@ -116,14 +115,13 @@ public final class MaskedThrows {
 
     public MaskedThrows() {
         tape = new int[MOST_TAPED];
-        tokens = new Tokens();
-        parser = new Parser(tokens);
+        parser = new Parser();
         programs = new Program[MOST_PROGRAMS];
         for (int i = 0; i < MOST_PROGRAMS; i++) {
             programs[i] = new Program();
         }
         faultPlace = NONE;
-        world = new World(programs[0]);
+        world = new World();
     }
 
     public int feed(int a, int b, int c, int d, int e) {
@@ -157,8 +155,7 @@ public final class MaskedThrows {
         if (programCount >= MOST_PROGRAMS) {
             return NONE;
         }
-        tokens.scan(tape, taped);
-        faultPlace = parser.parse(programs[programCount]);
+        faultPlace = parser.parse(tape, taped, programs[programCount]);
         taped = 0;
         if (faultPlace != NONE) {
             return FAULTY;
@@ -478,17 +475,14 @@ public final class MaskedThrows {
      * token that cannot stand there, so that THE FAULT's place is known at the end.
      */
     private static final class Parser {
-        private final Tokens tokens;
+        private final Tokens tokens = new Tokens();
         private Program program;
         private int at;
 
-        Parser(Tokens tokens) {
-            this.tokens = tokens;
-        }
-
-        int parse(Program written) {
+        int parse(int[] bytes, int length, Program written) {
+            tokens.scan(bytes, length);
+            written.reset();
             program = written;
-            program.reset();
             at = 0;
             boolean fine = statements(WHOLE_PROGRAM, 0, TEXT_END);
             return fine ? NONE : tokens.places[at];
@@ -1119,18 +1113,23 @@ public final class MaskedThrows {
 
     /** The THREADS with all that lies between them. */
     private static final class World {
-        final Chronicle chronicle = new Chronicle(MOST_NOTES);
-        final Fiber[] fibers = new Fiber[THREADS];
+        final Chronicle chronicle;
+        final Fiber[] fibers;
         final boolean[] boxFull = new boolean[BOXES];
         final long[] boxNumber = new long[BOXES];
         /** For looking at what a THREAD would do; what it tells is lost. */
         private final Fiber shadow;
 
-        World(Program anyProgram) {
+        World() {
+            Chronicle told = new Chronicle(MOST_NOTES);
+            Program empty = new Program();
+            Fiber[] made = new Fiber[THREADS];
             for (int i = 0; i < THREADS; i++) {
-                fibers[i] = new Fiber(i, chronicle, anyProgram);
+                made[i] = new Fiber(i, told, empty);
             }
-            shadow = new Fiber(NONE, new Chronicle(0), anyProgram);
+            chronicle = told;
+            fibers = made;
+            shadow = new Fiber(NONE, new Chronicle(0), empty);
         }
 
         void reset() {
