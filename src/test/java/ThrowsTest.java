@@ -267,6 +267,12 @@ public final class ThrowsTest {
     x.hurl(0, 5);
     BENCH.dueRow("hard: waits on", Bench.turns(x, 1, 0, 0, 0), "0444");
     BENCH.dueRow("the value stays", Bench.row(x, 1), "0:0:7");
+    // A send behind a broken one throws anew.
+    x = Bench.running("try{send 7 to 1;}catch q{send 8 to 1;send 9 to 1;}", "mask{while(1){}}");
+    BENCH.dueRow("sent", Bench.turns(x, 1, 0, 0), "004");
+    x.hurl(0, 5);
+    BENCH.dueRow("broken, sent again", Bench.turns(x, 0, 0, 0), "144");
+    BENCH.dueRow("the second value", Bench.row(x, 1), "0:0:8");
     // Thrown there already, then open and thrown to: the statement is not done.
     x = Bench.running("try{send 7 to 1;note 1;}catch q{note q;}", "try{take a to q;}catch r{take a to q;}");
     BENCH.dueRow("sent and thrown", Bench.turns(x, 1, 0, 0, 1), "0041");
