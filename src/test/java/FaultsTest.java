@@ -59,7 +59,7 @@ public final class FaultsTest {
   }
 
   private static int compare(String text) {
-    MaskedThrows x = new MaskedThrows();
+    Lasting x = new Lasting();
     Reader reader = new Reader(text);
     int place = reader.fault();
     BENCH.due("text() of " + text, Bench.program(x, text), place == -1 ? 0 : -2);

@@ -11,7 +11,7 @@ public final class ModelTest {
 
   private final Random random;
   private final String run;
-  private final MaskedThrows x = new MaskedThrows();
+  private final Lasting x = new Lasting();
   private Model model = new Model();
   private final List<List<Script.Statement>> scripts = new ArrayList<>();
   private final List<Consumer<Model>> history = new ArrayList<>();

@@ -12,7 +12,7 @@ public final class NotesTest {
   }
 
   private static void kinds() {
-    MaskedThrows x = Bench.running("note -3;", "first{}use{take a to q;}last{}");
+    Lasting x = Bench.running("note -3;", "first{}use{take a to q;}last{}");
     x.turn(0);
     Bench.times(x, 1, 2);
     x.hurl(1, 44);
@@ -22,7 +22,7 @@ public final class NotesTest {
   }
 
   private static void wrongNotes() {
-    MaskedThrows x = Bench.running("note 3;");
+    Lasting x = Bench.running("note 3;");
     BENCH.due("note of none", x.note(0, 0), -1);
     BENCH.due("noted of none", x.noted(0), 0);
     x.turn(0);
@@ -36,18 +36,16 @@ public final class NotesTest {
   }
 
   private static void limit() {
-    MaskedThrows x = Bench.running("while(1){q=q+1;note q;}");
-    for (int i = 0; i < 3 * 399; i++) {
-      x.turn(0);
-    }
+    Lasting x = Bench.running("while(1){" + "note 5;".repeat(38) + "}");
+    Bench.times(x, 0, 410);
     BENCH.due("notes", x.notes(), 399);
-    Bench.times(x, 0, 3);
+    BENCH.due("turn", x.turn(0), 0);
     BENCH.due("notes", x.notes(), 400);
     Bench.times(x, 0, 30);
     BENCH.due("later ones are lost", x.notes(), 400);
-    BENCH.due("the last", x.noted(399), 400);
-    BENCH.due("its clock", x.note(399, 2), 1200);
-    BENCH.due("the first", x.noted(0), 1);
+    BENCH.due("the last", x.noted(399), 5);
+    BENCH.due("its clock", x.note(399, 2), 411);
+    BENCH.due("the first", x.note(0, 2), 2);
     BENCH.due("note 400", x.note(400, 0), -1);
     BENCH.due("noted 400", x.noted(400), 0);
     BENCH.due("clear", x.clear(), 400);
@@ -55,11 +53,11 @@ public final class NotesTest {
   }
 
   private static void clears() {
-    MaskedThrows x = Bench.running("mask{within 5{note 1;take b to q;}}", "q=4;throw 9;", "send 5 to 0;");
+    Lasting x = Bench.running("mask{within 5{note 1;take b to q;}}", "q=4;throw 9;", "send 5 to 0;");
     Bench.turns(x, 0, 0, 0, 1, 1, 2);
     x.fill(1, 8);
     Bench.feed(x, "note 7");
-    Bench.program(new MaskedThrows(), "");
+    Bench.program(new Lasting(), "");
     BENCH.due("clear", x.clear(), 2);
     BENCH.due("clear again", x.clear(), 0);
     BENCH.due("clock", x.clock(), 0);
@@ -85,7 +83,7 @@ public final class NotesTest {
 
   /** A send that was under way when all was cleared is not remembered. */
   private static void clearsAll() {
-    MaskedThrows x = Bench.running("send 5 to 1;", "mask{while(1){}}");
+    Lasting x = Bench.running("send 5 to 1;", "mask{while(1){}}");
     Bench.turns(x, 1, 0);
     x.clear();
     x.start(0, 0);

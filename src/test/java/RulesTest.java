@@ -133,27 +133,38 @@ public final class RulesTest {
     Integer.MIN_VALUE, Integer.MAX_VALUE, Integer.MIN_VALUE + 1, Integer.MAX_VALUE - 1, Long.MIN_VALUE, Long.MAX_VALUE,
   };
 
-  /** Each object 512 calls with arguments of all kinds; what it throws ends this test with its trace. */
+  /** Each object some 500 calls with arguments of all kinds; what it throws ends this test with its trace. */
   private static void anyArguments() throws ReflectiveOperationException {
     Random random = new Random(11);
-    for (int i = 0; i < 300; i++) {
+    Method[] methods = MaskedThrows.class.getDeclaredMethods();
+    for (int i = 0; i < 400; i++) {
       MaskedThrows x = new MaskedThrows();
-      for (int p = 0; p < 4; p++) {
-        String text = Script.text(Script.make(random, 30));
-        Bench.feed(x, text.length() > 800 ? "" : text);
+      for (int p = 0; p < 3; p++) {
+        String text = Script.text(Script.make(random, 25));
+        feed(x, text.substring(0, Math.min(text.length(), 780)));
         x.text();
       }
       for (int t = 0; t < 5; t++) {
-        x.start(t, random.nextInt(4));
+        x.start(t, random.nextInt(3));
       }
-      Method[] methods = MaskedThrows.class.getMethods();
-      for (int k = 0; k < 512; k++) {
+      for (int k = 0; k < 380; k++) {
         Method m = methods[random.nextInt(methods.length)];
-        if (m.getDeclaringClass() == MaskedThrows.class && (!m.getName().equals("clear") || random.nextInt(20) == 0)) {
+        if (Modifier.isPublic(m.getModifiers()) && (!m.getName().equals("clear") || random.nextInt(20) == 0)) {
           m.invoke(x, arguments(random, m));
         }
       }
       BENCH.due("notes", x.notes() >= 0 && x.notes() <= 400 ? 1 : 0, 1);
+    }
+  }
+
+  private static void feed(MaskedThrows x, String text) {
+    String filled = text + " ".repeat(19);
+    for (int from = 0; from < text.length(); from += 20) {
+      int[] five = new int[5];
+      for (int i = 0; i < 20; i++) {
+        five[i / 4] = five[i / 4] << 8 | filled.charAt(from + i);
+      }
+      x.feed(five[0], five[1], five[2], five[3], five[4]);
     }
   }
 

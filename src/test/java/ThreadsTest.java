@@ -25,7 +25,7 @@ public final class ThreadsTest {
   }
 
   private static void starts() {
-    MaskedThrows x = Bench.running("q=1;");
+    Lasting x = Bench.running("q=1;");
     BENCH.due("start of one that runs", x.start(0, 0), -1);
     BENCH.dueRow("begun", Bench.told(x, 0), "1 0 0 0 0 0 0");
     BENCH.dueRow("turns", Bench.times(x, 0, 3), "02-");
@@ -38,13 +38,13 @@ public final class ThreadsTest {
     BENCH.due("q at first again", x.local(0, 0), 0);
     BENCH.due("clock goes on", x.clock(), 2);
 
-    MaskedThrows y = Bench.running("throw 5;");
+    Lasting y = Bench.running("throw 5;");
     BENCH.dueRow("dies", Bench.times(y, 0, 2), "3-");
     BENCH.due("died", y.died(0), 5);
     BENCH.due("start of a dead one", y.start(0, 0), 1);
     BENCH.due("died at first again", y.died(0), 0);
 
-    MaskedThrows z = Bench.running("", "");
+    Lasting z = Bench.running("", "");
     BENCH.due("start of the last thread", z.start(5, 1), 1);
     BENCH.due("two threads do one program", z.start(4, 1), 1);
     BENCH.dueRow("empty programs", Bench.turns(z, 0, 5, 4, 5), "222-");
@@ -52,7 +52,7 @@ public final class ThreadsTest {
   }
 
   private static void wrongThreads() {
-    MaskedThrows x = Bench.running("q=1;");
+    Lasting x = Bench.running("q=1;");
     for (int wrong : new int[] {-1, 6, 7, MIN, MAX}) {
       BENCH.due("start", x.start(wrong, 0), -1);
       BENCH.due("turn", x.turn(wrong), -1);
@@ -76,7 +76,7 @@ public final class ThreadsTest {
   }
 
   private static void noted(String exp, long want) {
-    MaskedThrows x = Bench.running("x=3;y=-7;note " + exp + ";");
+    Lasting x = Bench.running("x=3;y=-7;note " + exp + ";");
     BENCH.dueRow("turns of note " + exp, Bench.times(x, 0, 4), "0002");
     BENCH.due("note " + exp, x.noted(0), want);
   }
@@ -131,7 +131,7 @@ public final class ThreadsTest {
   }
 
   private static void branches() {
-    MaskedThrows x = Bench.running("if(q){note 1;}else{note 2;}note 3;");
+    Lasting x = Bench.running("if(q){note 1;}else{note 2;}note 3;");
     BENCH.due("if", x.turn(0), 0);
     BENCH.dueRow("in else", Bench.told(x, 0), "1 0 1 0 1 0 0");
     BENCH.dueRow("turns", Bench.times(x, 0, 3), "002");
@@ -151,7 +151,7 @@ public final class ThreadsTest {
   }
 
   private static void loops() {
-    MaskedThrows x = Bench.running("while(q<2){q=q+1;}note q;");
+    Lasting x = Bench.running("while(q<2){q=q+1;}note q;");
     BENCH.dueRow("turns", Bench.times(x, 0, 7), "0000002");
     BENCH.dueRow("notes", Bench.notes(x), "0/0/6=2 4/0/7=0");
     x = Bench.running("while(1){}");
@@ -164,7 +164,7 @@ public final class ThreadsTest {
   }
 
   private static void bodiesAtTheirEnds() {
-    MaskedThrows x = Bench.running("mask{hard{q=1;}}q=2;");
+    Lasting x = Bench.running("mask{hard{q=1;}}q=2;");
     x.turn(0);
     BENCH.dueRow("in mask", Bench.told(x, 0), "1 1 1 0 1 0 0");
     x.turn(0);
@@ -175,7 +175,7 @@ public final class ThreadsTest {
     BENCH.dueRow("out of both", Bench.told(x, 0), "1 0 4 0 0 0 0");
     BENCH.due("done", x.turn(0), 2);
     // A TURN that WAITS goes out of them too.
-    MaskedThrows y = Bench.running("mask{q=1;}take a to q;");
+    Lasting y = Bench.running("mask{q=1;}take a to q;");
     Bench.times(y, 0, 2);
     BENCH.dueRow("at the end", Bench.told(y, 0), "1 1 2 0 1 0 0");
     BENCH.due("waits", y.turn(0), 4);
@@ -183,7 +183,7 @@ public final class ThreadsTest {
   }
 
   private static void strength(String text, int turns, int want) {
-    MaskedThrows x = Bench.running(text);
+    Lasting x = Bench.running(text);
     Bench.times(x, 0, turns);
     BENCH.due("strength of " + text, x.thread(0, 1), want);
   }
@@ -211,7 +211,7 @@ public final class ThreadsTest {
   }
 
   private static void takes() {
-    MaskedThrows x = Bench.running("take c to x;note x;");
+    Lasting x = Bench.running("take c to x;note x;");
     BENCH.dueRow("waits", Bench.times(x, 0, 3), "444");
     BENCH.dueRow("no steps", Bench.told(x, 0), "1 0 0 0 0 0 0");
     BENCH.due("the clock goes", x.clock(), 3);
@@ -221,19 +221,19 @@ public final class ThreadsTest {
     BENCH.due("x", x.local(0, 7), -5);
     BENCH.dueRow("goes on", Bench.times(x, 0, 2), "02");
     // Of two that wait one alone has it.
-    MaskedThrows y = Bench.running("take a to q;", "take a to q;");
+    Lasting y = Bench.running("take a to q;", "take a to q;");
     y.fill(0, 4);
     BENCH.dueRow("one of two", Bench.turns(y, 1, 0, 1), "042");
     BENCH.due("its q", y.local(1, 0), 4);
   }
 
   private static void puts() {
-    MaskedThrows x = Bench.running("q=2;put q*3 in h;put q in h;", "take h to z;take h to y;");
+    Lasting x = Bench.running("q=2;put q*3 in h;put q in h;", "take h to z;take h to y;");
     BENCH.dueRow("turns", Bench.turns(x, 1, 0, 0, 0, 1, 1, 0, 1, 0, 1), "4004040022");
     BENCH.due("z", x.local(1, 9), 6);
     BENCH.due("y", x.local(1, 8), 2);
     BENCH.due("h", x.full(7), 0);
-    MaskedThrows y = Bench.running("put 9 in a;");
+    Lasting y = Bench.running("put 9 in a;");
     y.turn(0);
     BENCH.due("full", y.full(0), 1);
     BENCH.due("box", y.box(0), 9);
@@ -242,7 +242,7 @@ public final class ThreadsTest {
   }
 
   private static void boxes() {
-    MaskedThrows x = new MaskedThrows();
+    Lasting x = new Lasting();
     for (int i = 0; i < 8; i++) {
       BENCH.due("box of an empty one", x.box(i), 0);
       BENCH.due("fill", x.fill(i, Long.MIN_VALUE + i), 1);
@@ -255,7 +255,7 @@ public final class ThreadsTest {
       BENCH.due("full of none", x.full(wrong), -1);
       BENCH.due("box of none", x.box(wrong), 0);
     }
-    MaskedThrows y = Bench.running("take a to q;");
+    Lasting y = Bench.running("take a to q;");
     y.fill(0, 3);
     y.turn(0);
     BENCH.due("box of an emptied one", y.box(0), 0);
@@ -263,7 +263,7 @@ public final class ThreadsTest {
   }
 
   private static void locals() {
-    MaskedThrows x = Bench.running("q=1;r=2;s=3;t=4;u=5;v=6;w=7;x=8;y=9;z=10;", "q=77;");
+    Lasting x = Bench.running("q=1;r=2;s=3;t=4;u=5;v=6;w=7;x=8;y=9;z=10;", "q=77;");
     BENCH.dueRow("turns", Bench.turns(x, 0, 0, 0, 0, 0, 0, 0, 0, 0, 0, 1, 0), "000000000002");
     for (int i = 0; i < 10; i++) {
       BENCH.due("local " + i, x.local(0, i), i + 1);
@@ -286,8 +286,8 @@ public final class ThreadsTest {
 
   private static void playsAsTurns() {
     for (long seed : new long[] {0, 1, -1, 12345678901234L, Long.MIN_VALUE, Long.MAX_VALUE}) {
-      MaskedThrows x = Bench.running(TURNING);
-      MaskedThrows y = Bench.running(TURNING);
+      Lasting x = Bench.running(TURNING);
+      Lasting y = Bench.running(TURNING);
       int played = x.play(seed, 300);
       BigInteger all = BigInteger.ONE.shiftLeft(64);
       BigInteger s = BigInteger.valueOf(seed).mod(all);
@@ -310,7 +310,7 @@ public final class ThreadsTest {
   }
 
   private static void playEdges() {
-    MaskedThrows x = Bench.running("while(1){}", "while(1){}", "while(1){}", "while(1){}", "while(1){}", "while(1){}");
+    Lasting x = Bench.running("while(1){}", "while(1){}", "while(1){}", "while(1){}", "while(1){}", "while(1){}");
     BENCH.due("play 0", x.play(5, 0), 0);
     BENCH.due("play -1", x.play(5, -1), -1);
     BENCH.due("play 2001", x.play(5, 2001), -1);
@@ -320,6 +320,6 @@ public final class ThreadsTest {
     int steps = x.play(5, 2000);
     BENCH.due("play 2000", steps, x.clock());
     BENCH.due("three in four", steps > 1400 && steps < 1600 ? 1 : 0, 1);
-    BENCH.due("play of none", new MaskedThrows().play(5, 2000), 0);
+    BENCH.due("play of none", new Lasting().play(5, 2000), 0);
   }
 }

@@ -30,7 +30,7 @@ public final class ThrowsTest {
   }
 
   private static void hurls() {
-    MaskedThrows x = Bench.running("note 1;note 2;");
+    Lasting x = Bench.running("note 1;note 2;");
     BENCH.due("turn", x.turn(0), 0);
     BENCH.due("hurl", x.hurl(0, 7), 1);
     BENCH.dueRow("row", Bench.row(x, 0), "6:0:7");
@@ -41,20 +41,20 @@ public final class ThrowsTest {
     BENCH.dueRow("notes", Bench.notes(x), "0/0/1=1 1/0/2=7 5/0/2=7");
     BENCH.due("hurl to a dead one", x.hurl(0, 7), -1);
     // Also behind the last statement.
-    MaskedThrows y = Bench.running("");
+    Lasting y = Bench.running("");
     y.hurl(0, Long.MIN_VALUE);
     y.hurl(0, 2);
     BENCH.due("turn", y.turn(0), 3);
     BENCH.due("died", y.died(0), Long.MIN_VALUE);
     BENCH.dueRow("its row is empty", Bench.row(y, 0), "");
-    MaskedThrows z = Bench.running("");
+    Lasting z = Bench.running("");
     z.turn(0);
     BENCH.due("hurl to one that is done", z.hurl(0, 1), -1);
     BENCH.due("died of one that is done", z.died(0), 0);
   }
 
   private static void hurlLimit() {
-    MaskedThrows x = Bench.running("hard{while(1){}}", "send 50 to 0;");
+    Lasting x = Bench.running("hard{while(1){}}", "send 50 to 0;");
     x.turn(0);
     for (int i = 1; i <= 4; i++) {
       BENCH.due("hurl", x.hurl(0, i), i);
@@ -74,13 +74,13 @@ public final class ThrowsTest {
     }
     BENCH.due("row of one that has none", x.row(2, 0, 0), -1);
 
-    MaskedThrows y = Bench.running("while(1){try{q=1;}catch r{}}");
+    Lasting y = Bench.running("while(1){try{q=1;}catch r{}}");
     for (int i = 1; i <= 8; i++) {
       y.hurl(0, i);
     }
     BENCH.due("the ninth", y.hurl(0, 9), -1);
     BENCH.due("takes the first", y.turn(0), 3);
-    MaskedThrows z = Bench.running("try{take a to q;}catch r{take a to q;}");
+    Lasting z = Bench.running("try{take a to q;}catch r{take a to q;}");
     z.turn(0);
     for (int i = 1; i <= 8; i++) {
       z.hurl(0, i);
@@ -93,7 +93,7 @@ public final class ThrowsTest {
   }
 
   private static void masks() {
-    MaskedThrows x = Bench.running("mask{q=1;q=2;}q=3;");
+    Lasting x = Bench.running("mask{q=1;q=2;}q=3;");
     x.turn(0);
     x.hurl(0, 5);
     BENCH.dueRow("masked, then not", Bench.times(x, 0, 3), "003");
@@ -115,7 +115,7 @@ public final class ThrowsTest {
   }
 
   private static void waitsBroken() {
-    MaskedThrows x = Bench.running("mask{take a to q;}");
+    Lasting x = Bench.running("mask{take a to q;}");
     BENCH.dueRow("waits", Bench.times(x, 0, 2), "04");
     x.hurl(0, 5);
     BENCH.due("broken", x.turn(0), 3);
@@ -151,7 +151,7 @@ public final class ThrowsTest {
   }
 
   private static void tries() {
-    MaskedThrows x = Bench.running("try{throw 5;q=1;}catch q{note q;}note 9;");
+    Lasting x = Bench.running("try{throw 5;q=1;}catch q{note q;}note 9;");
     BENCH.dueRow("turns", Bench.times(x, 0, 2), "01");
     BENCH.dueRow("in catch", Bench.told(x, 0), "1 1 2 0 1 0 0");
     BENCH.dueRow("turns", Bench.times(x, 0, 2), "00");
@@ -186,7 +186,7 @@ public final class ThrowsTest {
   }
 
   private static void triesAndRows() {
-    MaskedThrows x = Bench.running("try{throw 1;}catch q{note 1;note 2;}note 3;");
+    Lasting x = Bench.running("try{throw 1;}catch q{note 1;note 2;}note 3;");
     Bench.times(x, 0, 2);
     x.hurl(0, 7);
     BENCH.dueRow("masked in catch", Bench.times(x, 0, 3), "003");
@@ -203,7 +203,7 @@ public final class ThrowsTest {
   }
 
   private static void sends() {
-    MaskedThrows x = Bench.running("q=6;send q+1 to 1;note 1;", "take a to q;");
+    Lasting x = Bench.running("q=6;send q+1 to 1;note 1;", "take a to q;");
     BENCH.dueRow("waits from the first turn on", Bench.turns(x, 0, 0), "04");
     BENCH.dueRow("row", Bench.row(x, 1), "0:0:7");
     BENCH.dueRow("waits", Bench.turns(x, 0, 0), "44");
@@ -223,7 +223,7 @@ public final class ThrowsTest {
   }
 
   private static void sendsToItself() {
-    MaskedThrows x = Bench.running("try{send 3 to 0;}catch q{}");
+    Lasting x = Bench.running("try{send 3 to 0;}catch q{}");
     BENCH.dueRow("turns", Bench.times(x, 0, 3), "012");
     BENCH.due("q", x.local(0, 0), 3);
     BENCH.dueRow("not from a row", Bench.notes(x), "4/0/3=0");
@@ -235,7 +235,7 @@ public final class ThrowsTest {
   }
 
   private static void sendsToOneThatDoesNotRun() {
-    MaskedThrows x = Bench.running("send 3 to 1;send 4 to 2;", "");
+    Lasting x = Bench.running("send 3 to 1;send 4 to 2;", "");
     x.turn(1);
     BENCH.dueRow("done, never begun", Bench.times(x, 0, 3), "002");
     BENCH.dueRow("no row", Bench.row(x, 1), "");
@@ -244,7 +244,7 @@ public final class ThrowsTest {
   }
 
   private static void sendsBroken() {
-    MaskedThrows x = Bench.running("try{send 7 to 1;}catch q{note q;}", "mask{while(1){}}");
+    Lasting x = Bench.running("try{send 7 to 1;}catch q{note q;}", "mask{while(1){}}");
     BENCH.dueRow("sent", Bench.turns(x, 1, 0, 0), "004");
     x.hurl(1, 1);
     BENCH.dueRow("row", Bench.row(x, 1), "0:0:7 6:0:1");
@@ -288,7 +288,7 @@ public final class ThrowsTest {
   }
 
   private static void sendsToOneThatEnds() {
-    MaskedThrows x = Bench.running("send 7 to 1;note 1;", "mask{q=1;}", "hard{send 8 to 1;}");
+    Lasting x = Bench.running("send 7 to 1;note 1;", "mask{q=1;}", "hard{send 8 to 1;}");
     BENCH.dueRow("in mask", Bench.turns(x, 1, 0, 2, 2), "0404");
     BENCH.dueRow("row", Bench.row(x, 1), "0:0:7 2:0:8");
     BENCH.dueRow("dies of the first", Bench.turns(x, 1, 1), "03");
@@ -300,7 +300,7 @@ public final class ThrowsTest {
   }
 
   private static void sendsCross() {
-    MaskedThrows x = Bench.running("try{send 7 to 1;}catch q{}", "try{send 8 to 0;}catch q{}");
+    Lasting x = Bench.running("try{send 7 to 1;}catch q{}", "try{send 8 to 0;}catch q{}");
     BENCH.dueRow("in", Bench.turns(x, 0, 1, 0), "004");
     BENCH.due("thrown ahead of its send", x.turn(1), 1);
     BENCH.dueRow("no value came", Bench.row(x, 0), "");
@@ -317,7 +317,7 @@ public final class ThrowsTest {
   }
 
   private static void firsts() {
-    MaskedThrows x = Bench.running("first{q=1;}use{q=2;}last{q=3;}note q;");
+    Lasting x = Bench.running("first{q=1;}use{q=2;}last{q=3;}note q;");
     String[] told = {
       "1 1 1 0 1 0 0", "1 1 2 0 1 0 0", "1 0 3 0 1 0 0", "1 1 4 0 1 0 0", "1 0 5 0 0 0 0", "2 0 6 0 0 0 0",
     };
@@ -341,7 +341,7 @@ public final class ThrowsTest {
   }
 
   private static void firstsThrown() {
-    MaskedThrows x = Bench.running("first{}use{throw 4;}last{note 1;note 2;}");
+    Lasting x = Bench.running("first{}use{throw 4;}last{note 1;note 2;}");
     BENCH.dueRow("turns", Bench.times(x, 0, 2), "01");
     BENCH.dueRow("in last", Bench.told(x, 0), "1 1 2 0 1 0 1");
     BENCH.dueRow("turns", Bench.times(x, 0, 3), "003");
@@ -386,7 +386,7 @@ public final class ThrowsTest {
   }
 
   private static void firstsHoldAhead() {
-    MaskedThrows x = Bench.running("try{first{}use{throw 4;}last{}}catch q{note q;}");
+    Lasting x = Bench.running("try{first{}use{throw 4;}last{}}catch q{note q;}");
     BENCH.dueRow("turns", Bench.times(x, 0, 3), "001");
     x.hurl(0, 9);
     BENCH.dueRow("an empty last is a turn", Bench.told(x, 0), "1 1 3 1 2 0 1");
@@ -403,7 +403,7 @@ public final class ThrowsTest {
   }
 
   private static void firstsWithin() {
-    MaskedThrows x = Bench.running("within 3{first{}use{take a to q;}last{note 1;}}else{note 2;}");
+    Lasting x = Bench.running("within 3{first{}use{take a to q;}last{note 1;}}else{note 2;}");
     BENCH.dueRow("turns", Bench.times(x, 0, 4), "0041");
     BENCH.dueRow("a timeout is held", Bench.told(x, 0), "1 1 3 0 2 0 1");
     BENCH.dueRow("turns", Bench.times(x, 0, 2), "01");
@@ -418,7 +418,7 @@ public final class ThrowsTest {
   }
 
   private static void withins() {
-    MaskedThrows x = Bench.running("within 3{take a to q;}else{note 1;}note 2;");
+    Lasting x = Bench.running("within 3{take a to q;}else{note 1;}note 2;");
     BENCH.due("in", x.turn(0), 0);
     BENCH.dueRow("it may come", Bench.told(x, 0), "1 0 1 0 1 1 0");
     BENCH.dueRow("turns", Bench.times(x, 0, 3), "441");
@@ -455,7 +455,7 @@ public final class ThrowsTest {
   }
 
   private static void withinsMasked() {
-    MaskedThrows x = Bench.running("mask{within 1{q=1;q=2;}note 1;}");
+    Lasting x = Bench.running("mask{within 1{q=1;q=2;}note 1;}");
     BENCH.dueRow("turns", Bench.times(x, 0, 3), "000");
     BENCH.dueRow("stands in the row", Bench.row(x, 0), "7:2:0");
     BENCH.due("value", x.value(0, 0), 0);
@@ -480,7 +480,7 @@ public final class ThrowsTest {
   }
 
   private static void withinsInOrder() {
-    MaskedThrows x = Bench.running("hard{within 3{within 2{while(1){}}}}");
+    Lasting x = Bench.running("hard{within 3{within 2{while(1){}}}}");
     BENCH.dueRow("turns", Bench.times(x, 0, 4), "0000");
     BENCH.dueRow("none yet", Bench.told(x, 0), "1 2 4 0 4 2 0");
     x.turn(0);
@@ -495,7 +495,7 @@ public final class ThrowsTest {
   }
 
   private static void withinsThrownThrough() {
-    MaskedThrows x = Bench.running("within 2{try{take a to q;}catch r{note 5;}}else{note 6;}");
+    Lasting x = Bench.running("within 2{try{take a to q;}catch r{note 5;}}else{note 6;}");
     BENCH.dueRow("no try takes it", Bench.times(x, 0, 5), "00102");
     BENCH.dueRow("notes", Bench.notes(x), "1/0/3=0 0/0/4=6 4/0/5=0");
     // The outer one goes out through the inner one, whose own goes.
@@ -517,7 +517,7 @@ public final class ThrowsTest {
   }
 
   private static void withinsLeft() {
-    MaskedThrows x = Bench.running("mask{try{within 1{q=1;throw 5;}else{note 1;}}catch r{note 2;}}");
+    Lasting x = Bench.running("mask{try{within 1{q=1;throw 5;}else{note 1;}}catch r{note 2;}}");
     BENCH.dueRow("turns", Bench.times(x, 0, 4), "0000");
     BENCH.dueRow("stands", Bench.row(x, 0), "7:3:0");
     BENCH.due("thrown out of it", x.turn(0), 1);
@@ -536,7 +536,7 @@ public final class ThrowsTest {
   }
 
   private static void stuckOrNot() {
-    MaskedThrows x = Bench.running("q=1;");
+    Lasting x = Bench.running("q=1;");
     BENCH.due("a step", x.stuck(), 0);
     x.turn(0);
     BENCH.due("to be done", x.stuck(), 0);
@@ -582,7 +582,7 @@ public final class ThrowsTest {
   }
 
   private static void stuckLooksAhead() {
-    MaskedThrows x = Bench.running("mask{q=1;}take a to q;");
+    Lasting x = Bench.running("mask{q=1;}take a to q;");
     Bench.times(x, 0, 2);
     BENCH.due("at the end, then waits", x.stuck(), 1);
     x.hurl(0, 1);
