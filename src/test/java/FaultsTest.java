@@ -19,13 +19,13 @@ public final class FaultsTest {
   public static void main(String[] args) {
     Random random = new Random(7);
     int faults = 0;
-    for (int i = 0; i < 40000; i++) {
+    for (int i = 0; i < 15000; i++) {
       String text = spoilt(random, Script.text(Script.make(random, 3 + random.nextInt(45))));
       if (text.length() <= 800) {
         faults += compare(text);
       }
     }
-    for (int i = 0; i < 20000; i++) {
+    for (int i = 0; i < 10000; i++) {
       faults += compare(pieces(random));
     }
     System.out.println("FaultsTest: " + faults + " texts had a fault");

@@ -1,3 +1,5 @@
+import java.util.List;
+
 /** Promise 4, text: numbers, faults and refusals, and the limits of section 1 that a text may just reach. */
 public final class Promise04Test {
   private static final Bench BENCH = new Bench("Promise 4");
@@ -68,6 +70,15 @@ public final class Promise04Test {
       BENCH.due("text()", Bench.program(x, "q=1;"), p);
       BENCH.due("told(" + p + ", 0)", x.told(p, 0), 1);
     }
+    BENCH.sentence("-2 with a FAULT: nothing of its text is in the next one");
+    Lasting y = new Lasting();
+    for (int i = 0; i < 5; i++) {
+      BENCH.due("text() of a fault", Bench.program(y, "q=1" + "+1".repeat(59) + ";" + "mask{".repeat(8) + "note"), -2);
+    }
+    BENCH.due("text() as long", Bench.program(y, "q=2" + "+2".repeat(59) + ";"), 0);
+    BENCH.dueRow("told", y.told(0, 0) + " " + y.told(0, 1) + " " + y.told(0, 2), "1 60 0");
+    y.start(0, 0);
+    BENCH.dueRow("it runs", Bench.times(y, 0, 2) + " " + y.local(0, 0), "02 120");
   }
 
   private static Lasting twelve() {
@@ -132,6 +143,12 @@ public final class Promise04Test {
     BENCH.fault(" ".repeat(796) + "note", 800);
     BENCH.fault("q=" + "1".repeat(798), 2);
     BENCH.fault("n".repeat(800), 0);
+    BENCH.sentence("a text of 800 tokens is read, too");
+    for (char c : "!;{}(-1a".toCharArray()) {
+      BENCH.fault(("" + c).repeat(800), 0);
+    }
+    BENCH.fault("q=" + "(".repeat(798), 10);
+    BENCH.fault("q=1;".repeat(200), 160);
   }
 
   private static void boxLetters() {
@@ -167,7 +184,16 @@ public final class Promise04Test {
     BENCH.faultAt("@i(1){}");
     BENCH.faultAt("put 1 @i a;");
     BENCH.faultAt("take a @t q;");
-    for (String word : "note if else while take to put in throw send mask hard open try catch first use last within".split(" ")) {
+    String[] words = "note if else while take to put in throw send mask hard open try catch first use last within".split(" ");
+    for (String word : words) {
+      for (int at = 0; at < word.length(); at++) {
+        for (char c = 'a'; c <= 'z'; c++) {
+          String other = word.substring(0, at) + c + word.substring(at + 1);
+          if (!List.of(words).contains(other)) {
+            BENCH.fault(other + " 1;", 0);
+          }
+        }
+      }
       BENCH.fault(word.toUpperCase(), 0);
       BENCH.fault(word + "x 1;", 0);
       BENCH.fault("x" + word + " 1;", 0);

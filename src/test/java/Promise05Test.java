@@ -24,6 +24,7 @@ public final class Promise05Test {
     everyTokenSpoilt();
     firstOfSeveral();
     firstByte();
+    onceAtMost();
     boxForLocal();
     numberThatIsNone();
     limits();
@@ -145,6 +146,24 @@ public final class Promise05Test {
     BENCH.faultAt("note \n\n @12345678901234567890;");
     BENCH.faultAt("send 1 to @123456789;");
     BENCH.faultAt("take a\n@within;");
+  }
+
+  private static void onceAtMost() {
+    BENCH.sentence("exp: sum [(< = #) sum], one of them at most");
+    for (char first : "<=#".toCharArray()) {
+      for (char second : "<=#".toCharArray()) {
+        BENCH.faultAt("note 1" + first + "2@" + second + "3;");
+        BENCH.faultAt("note 1" + first + "@" + second + "3;");
+        BENCH.faultAt("if(1" + first + "2+3@" + second + "4){}");
+        BENCH.fault("note(1" + first + "2)" + second + "(3" + first + "4);", -1);
+      }
+    }
+    BENCH.sentence("[else body], one at most, and of if and within alone");
+    BENCH.faultAt("if(1){}else{}@else{}");
+    BENCH.faultAt("within 1{}else{}@else{}");
+    for (String other : new String[] {"q=1;", "while(1){}", "mask{}", "hard{}", "open{}", "try{}catch q{}", "first{}use{}last{}", ""}) {
+      BENCH.faultAt(other + "@else{}");
+    }
   }
 
   private static void boxForLocal() {

@@ -193,6 +193,12 @@ public final class Promise08FirstTest {
     BENCH.dueRow("notes", Bench.notes(x), "2/0/3=0 1/0/3=0 3/0/3=0 0/0/4=1 0/0/6=2 4/0/7=0");
     x = Bench.running("try{within 2{first{}use{take a to q;}last{throw 6;}}else{note 2;}}catch r{}");
     BENCH.dueRow("what last THROWS goes instead", Bench.times(x, 0, 5) + x.local(0, 1), "000116");
+    x = Bench.running("within 3{try{first{}use{take a to q;}last{try{throw 6;}catch r{}}}catch s{note 1;}}else{note 2;}");
+    BENCH.dueRow("a value taken in last does not make a value of it", Bench.times(x, 0, 9), "000101102");
+    BENCH.dueRow("notes", Bench.notes(x), "2/0/4=0 1/0/4=0 3/0/4=0 0/0/8=2 4/0/9=0");
+    x = Bench.running("try{first{}use{throw 5;}last{within 0{take a to q;}}}catch r{note r;}");
+    BENCH.dueRow("nor a TIMEOUT taken in last one of a value", Bench.times(x, 0, 8), "00101102");
+    BENCH.dueRow("notes", Bench.notes(x), "2/0/3=0 3/0/3=0 1/0/5=0 0/0/7=5 4/0/8=0");
   }
 
   private static void onceInAWhile() {

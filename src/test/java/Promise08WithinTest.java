@@ -111,6 +111,9 @@ public final class Promise08WithinTest {
     BENCH.sentence("the TIMEOUT that comes in the TURN that goes out of its body goes with it");
     Lasting x = Bench.running("within 2{q=1;}else{note 3;}note 4;");
     BENCH.dueRow("turns", Bench.times(x, 0, 4) + Bench.notes(x), "00020/0/3=4 4/0/4=0");
+    x = Bench.running("within 2{q=1;}else{note 3;}note 4;", TICKS);
+    BENCH.dueRow("come at another's TURN, its body being at its end", Bench.turns(x, 0, 0, 1) + " " + Bench.row(x, 0), "000 7:1:0");
+    BENCH.dueRow("it goes", Bench.turns(x, 0) + Bench.row(x, 0) + x.noted(0), "04");
     x = Bench.running("within 2{mask{q=1;}}else{note 3;}note 4;");
     BENCH.dueRow("one TURN too late", Bench.times(x, 0, 3), "000");
     BENCH.dueRow("it stands, masked", Bench.row(x, 0), "7:1:0");

@@ -111,6 +111,15 @@ public final class Promise19Test {
     stuck("through first and use to a last that WAITS", x, 1);
     x.fill(0, 1);
     stuck("that need not WAIT", x, 0);
+    x = Bench.running("first{}use{put 1 in a;}last{q=1;}note 1;");
+    Bench.times(x, 0, 3);
+    stuck("out of last, not to use again", x, 0);
+    x = Bench.running("first{}use{put 1 in a;}last{put 1 in a;}note 1;");
+    Bench.times(x, 0, 2);
+    stuck("from use to last", x, 1);
+    x = Bench.running("hard{first{put 1 in a;}use{q=1;}last{}}");
+    Bench.times(x, 0, 3);
+    stuck("from first to use", x, 0);
     x = Bench.running("while(1){q=1;}");
     Bench.times(x, 0, 2);
     stuck("to a while's exp", x, 0);

@@ -9,6 +9,7 @@ public final class Promise20Test {
     otherCalls();
     aheadOfAll();
     farOn();
+    to512Calls();
     BENCH.close();
   }
 
@@ -79,5 +80,17 @@ public final class Promise20Test {
       }
     }
     BENCH.due("clock", x.clock(), due);
+  }
+
+  private static void to512Calls() {
+    BENCH.sentence("An object is used for at most 512 calls: the last of them, too");
+    MaskedThrows x = new MaskedThrows();
+    x.feed(0x7768696C, 0x65283129, 0x7B7D2020, 0x20202020, 0x20202020);
+    BENCH.due("text() of while(1){}", x.text(), 0);
+    x.start(0, 0);
+    for (int call = 4; call < 512; call++) {
+      x.turn(0);
+    }
+    BENCH.due("clock, the 512th", x.clock(), 508);
   }
 }

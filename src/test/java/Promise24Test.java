@@ -2,6 +2,11 @@
 public final class Promise24Test {
   private static final Bench BENCH = new Bench("Promise 24");
 
+  private static final String[] SIX = {
+    "hard{q=3;within 2{note 1;first{}use{throw 6;}last{take b to q;}}}", "throw 9;", "send 5 to 0;",
+    "within 900{within 800{r=8;take b to r;}}", "", "mask{try{take a to z;}catch z{take c to q;}}",
+  };
+
   public static void main(String[] args) {
     howManyNotes();
     asAtTheBeginning();
@@ -14,9 +19,8 @@ public final class Promise24Test {
   }
 
   private static Lasting busy() {
-    Lasting x = Bench.running("hard{q=3;within 2{note 1;first{}use{throw 6;}last{take b to q;}}}", "throw 9;", "send 5 to 0;", "r=8;", "",
-        "mask{try{take a to z;}catch z{take c to q;}}");
-    Bench.turns(x, 0, 0, 0, 0, 0, 0, 0, 1, 2, 3, 4, 5, 5, 5);
+    Lasting x = Bench.running(SIX);
+    Bench.turns(x, 0, 0, 0, 0, 0, 0, 0, 1, 2, 3, 3, 3, 4, 5, 5, 5);
     x.hurl(0, 4);
     x.hurl(5, 4);
     x.turn(5);
@@ -99,17 +103,22 @@ public final class Promise24Test {
 
   private static void nothingIsRemembered() {
     BENCH.sentence("All is as at the beginning: what is begun anew goes as it did at first");
-    Lasting x = busy();
-    x.clear();
-    Lasting y = Bench.running("hard{q=3;within 2{note 1;first{}use{throw 6;}last{take b to q;}}}", "throw 9;", "send 5 to 0;", "r=8;", "",
-        "mask{try{take a to z;}catch z{take c to q;}}");
-    for (int t = 0; t < 6; t++) {
-      BENCH.due("start", x.start(t, t), 1);
-    }
-    BENCH.dueRow("begun", Bench.all(x), Bench.all(y));
-    for (int i = 0; i < 10; i++) {
-      BENCH.due("play", x.play(i, 9), y.play(i, 9));
-      BENCH.dueRow("all", Bench.all(x), Bench.all(y));
+    for (int other = 0; other < 6; other++) {
+      Lasting x = busy();
+      x.clear();
+      Lasting y = new Lasting();
+      for (String text : SIX) {
+        Bench.program(y, text);
+      }
+      for (int t = 0; t < 6; t++) {
+        BENCH.due("start", x.start(t, (t + other) % 6), 1);
+        y.start(t, (t + other) % 6);
+      }
+      BENCH.dueRow("begun", Bench.all(x), Bench.all(y));
+      for (int i = 0; i < 20; i++) {
+        BENCH.due("play", x.play(i, 9), y.play(i, 9));
+        BENCH.dueRow("all", Bench.all(x), Bench.all(y));
+      }
     }
   }
 
