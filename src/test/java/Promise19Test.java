@@ -198,5 +198,9 @@ public final class Promise19Test {
     }
     String after = Bench.told(x, 0) + Bench.told(x, 1) + Bench.told(x, 2) + Bench.row(x, 0) + Bench.row(x, 2) + Bench.notes(x) + x.clock();
     BENCH.dueRow("all", after, before);
+    x = Bench.running("hard{within 0{take a to q;}}");
+    Bench.times(x, 0, 2);
+    x.stuck();
+    BENCH.dueRow("no TIMEOUT has come by it", Bench.told(x, 0), "1 2 2 0 2 1 0");
   }
 }
