@@ -123,6 +123,8 @@ public final class Promise08TurnTest {
     x = Bench.running("first{".repeat(8) + "}use{}last{}".repeat(8));
     BENCH.dueRow("through all three bodies of 8", Bench.times(x, 0, 9), "000000002");
     BENCH.due("notes: 8 use, 8 last, one DONE", x.notes(), 17);
+    x = Bench.running("first{".repeat(8) + "}use{}last{}".repeat(8) + "r=1;");
+    BENCH.dueRow("and on behind them", Bench.times(x, 0, 10) + x.local(0, 1), "00000000021");
   }
 
   private static void rowWhenOpen() {
